@@ -33,7 +33,7 @@ public final class ProcessMiner {
 
     private final int[] events = new int[MAX_EVENTS];
     private final int[] lengths = new int[MAX_TRACES];
-    private final int[] times = new int[MAX_TRACES];
+    private final int[] traceTimes = new int[MAX_TRACES];
     private int stored = 0;
 
     private final Log[] levels = new Log[LEVELS];
@@ -67,7 +67,7 @@ public final class ProcessMiner {
             events[trace * MAX_LENGTH + i] = buffer[i];
         }
         lengths[trace] = buffered;
-        this.times[trace] = times;
+        traceTimes[trace] = times;
         stored++;
         buffered = 0;
         mined = false;
@@ -77,8 +77,8 @@ public final class ProcessMiner {
     public int setTimes(int trace, int times) throws IndexOutOfBoundsException, IllegalArgumentException {
         checkTrace(trace);
         checkTimes(times);
-        int before = this.times[trace];
-        this.times[trace] = times;
+        int before = traceTimes[trace];
+        traceTimes[trace] = times;
         mined = false;
         return before;
     }
@@ -118,7 +118,7 @@ public final class ProcessMiner {
         checkLabel(b);
         int sum = 0;
         for (int t = 0; t < stored; t++) {
-            sum += times[t] * countPairs(t, a, b);
+            sum += traceTimes[t] * countPairs(t, a, b);
         }
         return sum;
     }
@@ -148,7 +148,7 @@ public final class ProcessMiner {
     public int variants() {
         int count = 0;
         for (int t = 0; t < stored; t++) {
-            if (times[t] > 0 && !isRepeated(t)) {
+            if (traceTimes[t] > 0 && !isRepeated(t)) {
                 count++;
             }
         }
@@ -206,7 +206,7 @@ public final class ProcessMiner {
     public boolean accepts(int trace) throws IllegalStateException, IndexOutOfBoundsException {
         checkMined();
         checkTrace(trace);
-        return isWord(trace);
+        return matcher.matches(events, trace * MAX_LENGTH, lengths[trace]);
     }
 
     public boolean acceptsBuffer() throws IllegalStateException {
@@ -221,7 +221,7 @@ public final class ProcessMiner {
         }
         int accepted = 0;
         for (int t = 0; t < stored; t++) {
-            if (isWord(t)) {
+            if (matcher.matches(events, t * MAX_LENGTH, lengths[t])) {
                 accepted++;
             }
         }
@@ -241,7 +241,7 @@ public final class ProcessMiner {
         d = digestRow(addTo(d, buffered), buffer, 0, buffered);
         d = addTo(d, stored);
         for (int t = 0; t < stored; t++) {
-            d = addTo(addTo(d, times[t]), lengths[t]);
+            d = addTo(addTo(d, traceTimes[t]), lengths[t]);
             d = digestRow(d, events, t * MAX_LENGTH, lengths[t]);
         }
         if (mined) {
@@ -301,7 +301,7 @@ public final class ProcessMiner {
 
     private boolean isRepeated(int trace) {
         for (int t = 0; t < trace; t++) {
-            if (times[t] > 0 && isSame(t, trace)) {
+            if (traceTimes[t] > 0 && isSame(t, trace)) {
                 return true;
             }
         }
@@ -318,10 +318,6 @@ public final class ProcessMiner {
             }
         }
         return true;
-    }
-
-    private boolean isWord(int trace) {
-        return matcher.matches(events, trace * MAX_LENGTH, lengths[trace]);
     }
 
     private static long addTo(long digest, int number) {
@@ -341,7 +337,7 @@ public final class ProcessMiner {
         Log log = levels[0];
         log.clear();
         for (int t = 0; t < stored; t++) {
-            if (times[t] > 0) {
+            if (traceTimes[t] > 0) {
                 for (int i = 0; i < lengths[t]; i++) {
                     log.append(events[t * MAX_LENGTH + i]);
                 }
@@ -875,7 +871,7 @@ public final class ProcessMiner {
         private int endsOfAlternatives(int node, int firstIndex, int start) {
             int result = 0;
             for (int i = firstIndex; i < tree.childCounts[node]; i++) {
-                result |= endsOfChild(node, i, start);
+                result |= endsOfChild(node, tree.childOf(node, i), start);
             }
             return result;
         }
@@ -886,7 +882,7 @@ public final class ProcessMiner {
                 int further = 0;
                 for (int at = start; at <= wordLength; at++) {
                     if (contains(reached, at)) {
-                        further |= endsOfChild(node, i, at);
+                        further |= endsOfChild(node, tree.childOf(node, i), at);
                     }
                 }
                 reached = further;
@@ -903,7 +899,7 @@ public final class ProcessMiner {
         }
 
         private int endsOfAgain(int node, int start) {
-            int once = endsOfChild(node, 0, start);
+            int once = endsOfChild(node, tree.childOf(node, 0), start);
             int between = 0;
             for (int at = start; at <= wordLength; at++) {
                 if (contains(once, at)) {
@@ -921,8 +917,7 @@ public final class ProcessMiner {
         }
 
         /** The ends that a child reaches before a label of its siblings comes. */
-        private int endsOfChild(int node, int index, int start) {
-            int child = tree.childOf(node, index);
+        private int endsOfChild(int node, int child, int start) {
             int foreign = tree.sets[node] & ~tree.sets[child];
             int last = start;
             while (last < wordLength && (word[last] & foreign) == 0) {
