@@ -129,6 +129,10 @@ final class MiningTest {
         Check.due("tree of a mixed loop", Logs.tree(mixed, 0), "BOTH(AGAIN(0 1) 3)");
         dueOfWords(mixed, true, "03", "30", "01031010", "301010");
         dueOfWords(mixed, false, "0", "3", "0033", "0310103", "0031", "13", "0130103");
+        ProcessMiner tail = Logs.mined("001", "0012");
+        Check.due("tree with an optional end", Logs.tree(tail, 0), "ORDER(AGAIN(0 -) 1 CHOICE(- 2))");
+        dueOfWords(tail, true, "01", "000000000001", "000000000012");
+        dueOfWords(tail, false, "000000000000", "000000000002", "000000000010", "100000000000");
         ProcessMiner tall = Logs.mined("", "0", "01", "012", "0123", "01234", "012345", "0123456", "01234567", "7");
         Check.due("nodes of optional steps", tall.mine(), 27);
         Check.due("words of optional steps", tall.words(3), 56);
