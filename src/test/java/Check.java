@@ -2,8 +2,14 @@
 final class Check {
     private static int passed = 0;
     private static int failed = 0;
+    private static String subject = "";
 
     private Check() {
+    }
+
+    /** What the answers that follow are about; it is told with those that are not due. */
+    static void about(String what) {
+        subject = what.isEmpty() ? "" : what + ": ";
     }
 
     static void due(String what, Object got, Object want) {
@@ -11,7 +17,7 @@ final class Check {
             passed++;
         } else {
             failed++;
-            System.out.println(what + " answered " + got + ", due is " + want);
+            System.out.println(subject + what + " answered " + got + ", due is " + want);
         }
     }
 

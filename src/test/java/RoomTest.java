@@ -3,28 +3,37 @@ import java.lang.management.ManagementFactory;
 
 /** All calls of a run share one room: an object is made once, and no call makes anything more. */
 final class RoomTest {
-    private static final int ROUNDS = 64;
+    private static final int OBJECTS = 5;
+    // So that an object, with the calls that fill its log, is asked for less than 512.
+    private static final int ROUNDS = 13;
     private static final ThreadMXBean THREADS = (ThreadMXBean) ManagementFactory.getThreadMXBean();
 
     private RoomTest() {
     }
 
     public static void main(String[] args) {
-        ProcessMiner miner = Logs.log("012345670123", "", "102", "7", "565", "0120", "33", "", "4", "0213");
-        long answers = useAll(miner) + made();
+        long answers = useAll(filled()) + made();
         long before = made();
         ProcessMiner other = new ProcessMiner();
         long forObject = made() - before;
         Check.due("a new object takes " + forObject + " bytes, at most 64000", forObject <= 64000, true);
+        ProcessMiner[] miners = new ProcessMiner[OBJECTS];
+        for (int i = 0; i < OBJECTS; i++) {
+            miners[i] = filled();
+        }
         before = made();
-        for (int i = 0; i < ROUNDS; i++) {
-            answers += useAll(miner);
+        for (int i = 0; i < OBJECTS * ROUNDS; i++) {
+            answers += useAll(miners[i / ROUNDS]);
         }
         long forCalls = made() - before;
         // The machine itself makes a few things for its own use while a program warms up.
         Check.due("the calls take " + forCalls + " bytes, at most 16000", forCalls <= 16000, true);
         Check.due("all was used", answers != other.traceCount(), true);
         Check.finish("RoomTest");
+    }
+
+    private static ProcessMiner filled() {
+        return Logs.log("012345670123", "", "102", "7", "565", "0120", "33", "", "4", "0213");
     }
 
     private static long made() {
