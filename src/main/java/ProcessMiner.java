@@ -37,8 +37,8 @@ public final class ProcessMiner {
     private int stored = 0;
 
     private final Log[] levels = new Log[LEVELS];
-    private final Tree tree = new Tree();
-    private final Matcher matcher = new Matcher(tree);
+    private final Matcher matcher = new Matcher();
+    private final Tree tree = matcher.tree;
     private boolean mined = false;
 
     public ProcessMiner() {
@@ -770,15 +770,11 @@ public final class ProcessMiner {
     private static final class Matcher {
         private static final int PLACES = MAX_LENGTH + 1;
 
-        private final Tree tree;
+        final Tree tree = new Tree();
         private final int[] word = new int[MAX_LENGTH];
         private int wordLength = 0;
         // For a node and a start: the set of the ends such that the node's labels between make a word of it.
         private final int[] ends = new int[MAX_NODES * PLACES];
-
-        Matcher(Tree tree) {
-            this.tree = tree;
-        }
 
         boolean matches(int[] row, int from, int count) {
             int used = 0;
